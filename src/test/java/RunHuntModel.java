@@ -12,8 +12,8 @@ import java.util.TreeMap;
  * The calls are made up by a counter, so every run of this test is the same.
  */
 public final class RunHuntModel {
-    static final int OBJECTS = 260;
-    static final int CALLS = 150;
+    static final int OBJECTS = 400;
+    static final int CALLS = 140;
 
     public static void main(String[] args) {
         int wrong = 0;
@@ -68,7 +68,7 @@ public final class RunHuntModel {
 
         boolean prepare() {
             boolean bad = false;
-            for (int k = upTo(4); k >= 0 && !bad; k--) {
+            for (int k = number % 3 == 0 ? upTo(1) : upTo(4); k >= 0 && !bad; k--) {
                 bad = riddle();
             }
             for (int k = 1 + upTo(3); k >= 0 && !bad; k--) {
@@ -78,7 +78,7 @@ public final class RunHuntModel {
         }
 
         boolean riddle() {
-            int spread = upTo(2) == 0 ? 30 : 9;
+            int spread = number % 2 == 0 ? 5 : upTo(2) == 0 ? 30 : 9;
             int h = odd(0, 9), x = odd(0, spread), y = odd(0, spread);
             return differs("riddle(" + h + "," + x + "," + y + ")", program.riddle(h, x, y), model.riddle(h, x, y));
         }
@@ -124,7 +124,13 @@ public final class RunHuntModel {
         }
 
         String goodLaw() {
-            switch (upTo(5)) {
+            switch (upTo(8)) {
+                case 6:
+                    return "s8(t>" + upTo(3) + ");s" + upTo(2) + "(1=1);e" + upTo(4) + "(c<5)";
+                case 7:
+                    return "s" + (3 + upTo(5)) + "(c>4);st*" + (1 + upTo(2)) + "(1=1);e" + (1 + upTo(5)) + "(c<" + (3 + upTo(5)) + ")";
+                case 8:
+                    return "s" + (1 + upTo(4)) + "(q>4);s" + (3 + upTo(5)) + "(t=0);s1(1=1);e" + upTo(3) + "(!b=0|t>1)";
                 case 0:
                     return "sc-h+t(t<4);s8-h(1=1);e" + (1 + upTo(3)) + "(!t=0&h>c|r=2)";
                 case 1:
@@ -147,6 +153,13 @@ public final class RunHuntModel {
                 boolean small = clauses > 3;
                 text.append(k == 0 ? "" : ";").append(upTo(1) == 0 ? 's' : 'e').append(small ? "t" : expression(upTo(5)));
                 text.append('(').append(small ? "t=0" : condition(upTo(5))).append(')');
+            }
+            if (upTo(3) == 0) {
+                int at = upTo(text.length() - 1);
+                boolean square = upTo(1) == 0;
+                for (int k = upTo(8); k > 0; k--) {
+                    text.insert(at, square ? '[' : "!(".charAt(upTo(1)));
+                }
             }
             for (int k = upTo(3); k > 1; k--) {
                 int at = upTo(text.length() - 1);
@@ -208,9 +221,12 @@ public final class RunHuntModel {
             return expression(depth / 2) + "<>=".charAt(upTo(2)) + expression(depth / 2);
         }
 
-        int state(boolean y) {
-            int r = 100 * odd(0, Math.max(0, model.riddles.size() - 1));
-            switch (upTo(y ? 3 : 5)) {
+        int state(boolean y, int at) {
+            int r = 100 * (upTo(2) > 0 ? at : odd(0, Math.max(0, model.riddles.size() - 1)));
+            switch (upTo(y ? 3 : 7)) {
+                case 6:
+                case 7:
+                    return r + 10;
                 case 0:
                 case 1:
                     return r + odd(0, 5);
@@ -229,7 +245,7 @@ public final class RunHuntModel {
             int bands = Math.max(1, model.bands.size()), riddles = Math.max(1, model.riddles.size());
             int x = odd(0, bands - 1), y = upTo(20) == 0 ? x : (x + 1 + upTo(Math.max(0, bands - 2))) % bands;
             int r = odd(0, riddles - 1), t = odd(0, 5), tick = odd(1, 10);
-            switch (upTo(33)) {
+            switch (upTo(38)) {
                 case 0:
                     return upTo(5) == 0 && (upTo(1) == 0 ? riddle() : band());
                 case 1: {
@@ -269,8 +285,13 @@ public final class RunHuntModel {
                     return differs("edge(" + x + "," + y + ")", program.edge(x, y), model.edge(x, y));
                 case 16:
                 case 17:
-                case 18: {
-                    int l = odd(0, 10), sx = state(false), sy = state(true), b = odd(0, 2), w = odd(0, 1);
+                case 18:
+                case 34:
+                case 35:
+                case 36:
+                case 37:
+                case 38: {
+                    int l = odd(0, 10), at = upTo(riddles - 1), sx = state(false, at), sy = state(true, at), b = odd(0, 2), w = odd(0, 1);
                     String told = "best(" + x + "," + y + "," + l + "," + sx + "," + sy + "," + b + "," + w + ")";
                     return differs(told, program.best(x, y, l, sx, sy, b, w), model.best(x, y, l, sx, sy, b, w));
                 }
