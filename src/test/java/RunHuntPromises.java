@@ -407,6 +407,17 @@ public final class RunHuntPromises {
         dueS("s3(!1=2&1=1);s4(1=1)", 3);
         dueS("s3(!!1=1);s4(1=1)", 3);
         dueS("s3(1<2&2>1&!2<1&!1>2&!1<1&!1>1);s4(1=1)", 3);
+        dueS("s[[[[[[5]]]]]](1=1)", 5);
+        dueS("s5((((((1=1))))))", 5);
+        dueS("s5([[[[[1]]]]]=1)", 5);
+        dueS("s5(1=[[[[[1]]]]])", 5);
+        dueS("s5(!!!!1=1)", 5);
+        dueS("s5(!!!!!1=2)", 5);
+        StringBuilder many = new StringBuilder();
+        for (int k = 0; k < 13; k++) {
+            many.append(k % 3 == 0 ? "e8(1=1);" : "s8(1=2);");
+        }
+        dueS(many + "s7(1=1)", 7);
         due("e of none", of("s3(1=1)", 1), 0);
         due("e", of("s3(1=1);e4(1=1)", 1), 4);
         due("e at most what is left", of("s3(1=1);e7(1=1)", 1), 5);
