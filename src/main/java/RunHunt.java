@@ -956,6 +956,7 @@ public final class RunHunt {
         private static final int COPIES_WALK = 6;
         private static final int COPIES_LEAD = 17;
         private static final int MODES = 21;
+        private static final int MODES_OF_Y = 18;
         private static final int BOX = RIDDLES_MOST * MODES;
         private static final int GO_ON = -1;
         private static final int THINK = 0;
@@ -967,10 +968,8 @@ public final class RunHunt {
         private final Hill hill;
         private Skill skillX;
         private Skill skillY;
-        /** VALUES by TICKS left and both states; one holds if its stamp is the one of now. */
-        private final long[] values = new long[LAST_TICK * BOX * BOX];
-        private final int[] stamps = new int[LAST_TICK * BOX * BOX];
-        private int stamp;
+        /** VALUES by TICKS left and both states; NONE: not yet reckoned. */
+        private final long[] values = new long[LAST_TICK * BOX * RIDDLES_MOST * MODES_OF_Y];
         private int x = NONE;
         private int y = NONE;
         private int never;
@@ -995,7 +994,10 @@ public final class RunHunt {
             copies = hill.followsSeen(y);
             skillX = hill.skill(x);
             skillY = hill.skill(y);
-            stamp++;
+            int used = LAST_TICK * hill.riddles * MODES * hill.riddles * MODES_OF_Y;
+            for (int i = 0; i < used && i < values.length; i++) {
+                values[i] = NONE;
+            }
         }
 
         int stateOfX(int number) {
@@ -1064,11 +1066,12 @@ public final class RunHunt {
             if (stateY == BOX || left <= 0) {
                 return stateY == BOX ? 0 : 1;
             }
-            int i = ((left - 1) * BOX + stateX) * BOX + stateY;
-            if (i < 0 || i >= values.length || i >= stamps.length) {
+            int i = (left - 1) * hill.riddles * MODES + stateX;
+            i = (i * hill.riddles + stateY / MODES) * MODES_OF_Y + stateY % MODES;
+            if (i < 0 || i >= values.length) {
                 return 0;
             }
-            if (stamps[i] == stamp) {
+            if (values[i] != NONE) {
                 return values[i];
             }
             long most = 0;
@@ -1078,7 +1081,6 @@ public final class RunHunt {
                 }
             }
             values[i] = most;
-            stamps[i] = stamp;
             return most;
         }
 
