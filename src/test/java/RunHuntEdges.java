@@ -64,10 +64,13 @@ public final class RunHuntEdges {
         bestNothingLeft();
         withoutEach();
         waitsOneBehindTheOther();
+        waitsToComeInTime();
         orderRows();
         ordersFive();
         givenLeast();
         cleverestFewest();
+        cleverestLetters();
+        fogElsewhere();
         wentTicks();
         goingsOfAll();
         knewWindow();
@@ -1575,6 +1578,27 @@ public final class RunHuntEdges {
         }
     }
 
+    /**
+     * y does not even FOLLOW, but x can't solve RIDDLE 1 and is wrong there for sure: it must come just when y begins to WALK from there.
+     * y solves RIDDLE 0 with t 1 (TICK 2 - t), RIDDLE 1 two TICKS later; x FOLLOWS in the TICK behind that and is ahead by one.
+     */
+    static void waitsToComeInTime() {
+        promise = "16 waits, y does not follow";
+        RunHunt x = new RunHunt();
+        law(x, "s8(b=1&r=0&t=1);s8(b=1&r=1);e8(b=0&r=1)");
+        x.riddle(0, 1, 0);
+        x.riddle(0, 1, 2);
+        x.band(0, 2, 0);
+        x.band(0, 1, 0);
+        x.weather(4, 0);
+        for (int left = 1; left <= 10; left++) {
+            due("till y has solved it, " + left, x.waits(0, 1, 0, left, 0), left < 5 ? 0 : 2);
+            due("with t 1", x.waits(0, 1, 0, left, 1), left < 4 ? 0 : 1);
+            due("with t 2 y never solves it", x.waits(0, 1, 0, left, 2), 0);
+        }
+        due("x is ahead for sure", x.best(0, 1, 10, 10, 0, 0, 0), 2 * power(64, 10));
+    }
+
     // ---- promises 17 to 19
 
     static void orderRows() {
@@ -1712,6 +1736,48 @@ public final class RunHuntEdges {
         due("one RIDDLE", x.cleverest(0, 1, 0), 1);
         due("as AHEAD, above", x.cleverest(0, 1, 1), x.ahead(0, 1, 0));
         due("as AHEAD, below", x.cleverest(0, 1, 2), x.ahead(0, 1, 1));
+    }
+
+    /** n is how many RIDDLES there are, r which one it is: by fewer RIDDLES hunted, too. */
+    static void cleverestLetters() {
+        promise = "19 cleverest, letters";
+        // if n were 1 by one RIDDLE, x would be ahead by a half there; as it is, two are better, as for like ones
+        RunHunt x = new RunHunt();
+        law(x, "s4(n=2&b=0);s8(b=0);s4(1=1)");
+        x.riddle(0, 0, 0);
+        x.riddle(0, 0, 0);
+        x.band(0, 1, 0);
+        x.band(0, 1, 0);
+        due("how many", x.cleverest(0, 1, 0), 2);
+        due("above, as by all", x.cleverest(0, 1, 1), x.ahead(0, 1, 0));
+        due("below, as by all", x.cleverest(0, 1, 2), x.ahead(0, 1, 1));
+    }
+
+    /** Who sees whom is asked in BEST and in a hunt DRAWN alone: a FOG changes nothing else. */
+    static void fogElsewhere() {
+        promise = "FOG";
+        RunHunt x = hill("sc(t<2);s3(1=1);e2(h<1)", 2);
+        x.band(4, 8, 0);
+        x.band(2, 9, 1);
+        x.band(5, 6, 1);
+        x.went(0, 0, 2);
+        x.went(1, 0, 3);
+        x.went(2, 0, 4);
+        x.weather(1, 0);
+        long[] clear = seenOrNot(x);
+        x.weather(1, 1);
+        long[] fog = seenOrNot(x);
+        for (int i = 0; i < clear.length; i++) {
+            due("answer " + i + " in a FOG", fog[i], clear[i]);
+        }
+        due("AFTER is possible", clear[0] > 0, true);
+        due("KNEW, seen", clear[8] < clear[9], true);
+    }
+
+    static long[] seenOrNot(RunHunt x) {
+        return new long[] {x.after(0, 1, 10, 0), x.after(2, 0, 10, 1), x.edge(0, 1), x.edge(2, 1), x.ways(1, 10, 5), x.share(1, 2, 10),
+            x.ahead(1, 2, 0), x.cleverest(0, 1, 0), x.knew(1, 4, 0), x.knew(1, 4, 1), x.knew(2, 4, 0), x.knew(2, 4, 1), x.walk(1, 1),
+            x.chance(2, 1, 1, 0)};
     }
 
     // ---- promises 20 to 22
